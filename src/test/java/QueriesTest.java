@@ -254,5 +254,14 @@ public final class QueriesTest {
         fix.deliver(0);
         fix.deliver(1);
         check.same("half filled", fix.agreed(1), 5);
+
+        SessionFix anew = Check.bothOn();
+        anew.send(0, 5);
+        anew.send(0, 5);
+        anew.send(0, 6);
+        anew.again(0, 2);
+        anew.send(0, 7);
+        Check.deliverAll(anew, 1);
+        check.same("a key sent anew without the mark is held against", anew.agreed(1), 4);
     }
 }
