@@ -6,7 +6,7 @@ import java.util.List;
 import java.util.Set;
 
 /** The document once more, written apart from the class and with no eye on what it makes. */
-final class Model {
+final class Model implements Engine {
     enum Kind { LOGON, HEARTBEAT, TEST, RESEND, FILL, BUSINESS, LOGOUT }
 
     record Message(int number, Kind kind, int told, boolean asks, boolean sentAgain, boolean possibleDouble) {
@@ -214,7 +214,8 @@ final class Model {
         }
     }
 
-    int logon(int side) {
+    @Override
+    public int logon(int side) {
         Party party = party(side);
         allow(party.state == 0 && party.store.size() < 200);
         party.wire.clear();
@@ -224,7 +225,8 @@ final class Model {
         return party.store.size();
     }
 
-    int logout(int side) {
+    @Override
+    public int logout(int side) {
         Party party = party(side);
         allow(party.state == 2 && party.store.size() < 200);
         party.originate(Kind.LOGOUT, 0, false, false);
@@ -232,13 +234,15 @@ final class Model {
         return party.store.size();
     }
 
-    int crash(int side) {
+    @Override
+    public boolean crash(int side) {
         int state = party(side).state;
         party(side).off();
-        return state == 2 ? 1 : 0;
+        return state == 2;
     }
 
-    int endDay() {
+    @Override
+    public int endDay() {
         allow(parties[0].state == 0 && parties[1].state == 0);
         int sent = parties[0].store.size() + parties[1].store.size();
         parties[0].reset();
@@ -246,7 +250,8 @@ final class Model {
         return sent;
     }
 
-    int send(int side, int key) {
+    @Override
+    public int send(int side, int key) {
         Party party = party(side);
         if (key < 0 || key > 999) {
             throw new IllegalArgumentException();
@@ -256,7 +261,8 @@ final class Model {
         return party.store.size();
     }
 
-    int again(int side, int number) {
+    @Override
+    public int again(int side, int number) {
         Party party = party(side);
         if (number < 1 || number > party.store.size() || party.store.get(number - 1).kind != Kind.BUSINESS) {
             throw new IndexOutOfBoundsException();
@@ -266,7 +272,8 @@ final class Model {
         return party.store.size();
     }
 
-    int deliver(int side) {
+    @Override
+    public int deliver(int side) {
         Party party = party(side);
         allow(!party.wire.isEmpty());
         Message message = party.wire.removeFirst();
@@ -274,36 +281,87 @@ final class Model {
         return message.kind.ordinal();
     }
 
-    int lose(int side) {
+    @Override
+    public int lose(int side) {
         Party party = party(side);
         allow(!party.wire.isEmpty());
         return party.wire.removeFirst().kind.ordinal();
     }
 
-    int tick() {
+    @Override
+    public int tick() {
         time++;
         parties[0].ticked();
         parties[1].ticked();
         return time;
     }
 
-    /** As Check.plain tells of the class. */
-    String plain(int side) {
-        Party party = party(side);
-        List<String> numbers = new ArrayList<>();
-        party.wire.forEach(message -> numbers.add(String.valueOf(message.number)));
-        List<String> keys = new ArrayList<>();
-        party.keys.forEach(key -> keys.add(String.valueOf(key)));
-        return "state " + party.state + " next " + (party.store.size() + 1) + " expected " + party.expected
-                + " asking " + (party.waitsUntil != -1) + " wire " + numbers.size() + ": " + String.join(" ", numbers)
-                + " handled " + keys.size() + ": " + String.join(" ", keys)
-                + " doubles " + party.doubles + " agreed " + party.agreed();
+    @Override
+    public int stateOf(int side) {
+        return party(side).state;
     }
 
-    /** As Check.wire tells of the class. */
-    String wire(int side) {
-        List<String> texts = new ArrayList<>();
-        party(side).wire.forEach(message -> texts.add(message.text()));
-        return String.join(", ", texts);
+    @Override
+    public int next(int side) {
+        return party(side).store.size() + 1;
+    }
+
+    @Override
+    public int expected(int side) {
+        return party(side).expected;
+    }
+
+    @Override
+    public boolean isAsking(int side) {
+        return party(side).waitsUntil != -1;
+    }
+
+    @Override
+    public int wire(int side) {
+        return party(side).wire.size();
+    }
+
+    /** The lists throw what the document asks for a place that they have not. */
+    private Message at(int side, int place) {
+        return new ArrayList<>(party(side).wire).get(place);
+    }
+
+    @Override
+    public int numberAt(int side, int place) {
+        return at(side, place).number;
+    }
+
+    @Override
+    public int textLength(int side, int place) {
+        return at(side, place).text().length();
+    }
+
+    @Override
+    public char textChar(int side, int place, int character) {
+        String text = at(side, place).text();
+        if (character < 0 || character >= text.length()) {
+            throw new IndexOutOfBoundsException();
+        }
+        return text.charAt(character);
+    }
+
+    @Override
+    public int handled(int side) {
+        return party(side).keys.size();
+    }
+
+    @Override
+    public int handledKey(int side, int place) {
+        return party(side).keys.get(place);
+    }
+
+    @Override
+    public int doubles(int side) {
+        return party(side).doubles;
+    }
+
+    @Override
+    public int agreed(int side) {
+        return party(side).agreed();
     }
 }

@@ -1,27 +1,34 @@
-/** Promises 11 to 22: what is. Much of it is held against in the other tests as well. */
+/** Promises 11 to 22: what is. (What they refuse is in RefusalsTest.) */
 public final class QueriesTest {
-    private static final Class<IndexOutOfBoundsException> NO_INDEX = IndexOutOfBoundsException.class;
-    private static final int[] WRONG_SIDES = {-1, 2, Integer.MIN_VALUE, Integer.MAX_VALUE};
-    private static final int[] WRONG_PLACES = {-1, 60, 1000, Integer.MIN_VALUE, Integer.MAX_VALUE};
     private static final Check check = new Check();
 
     public static void main(String[] args) {
         constants();
-        wrongSides();
-        wrongPlaces();
-        states();
-        numbers();
-        asking();
-        wires();
-        texts();
-        characters();
-        handled();
-        doubles();
-        agreed();
+        for (int self = 0; self < 2; self++) {
+            states(self);
+            nextNumbers(self);
+            expectedNumbers(self);
+            asking(self);
+            wires(self);
+            numbersOnTheWire(self);
+            textOfEachKind(self);
+            textOfMarks(self);
+            textOfLongNumbers(self);
+            lengthOfTexts(self);
+            charactersOfAText(self);
+            handledMessages(self);
+            handledKeys(self);
+            doublesOfADay(self);
+            agreedUpToWhatIsExpected(self);
+            agreedButPossibleDoubles(self);
+            agreedAcrossAGap(self);
+            queriesChangeNothing(self);
+        }
         check.end();
     }
 
     private static void constants() {
+        check.sentence("The constants");
         check.same("NONE", SessionFix.NONE, -1);
         check.same("OFF", SessionFix.OFF, 0);
         check.same("WAITING", SessionFix.WAITING, 1);
@@ -35,233 +42,318 @@ public final class QueriesTest {
         check.same("LOGOUT", SessionFix.LOGOUT, 6);
     }
 
-    /** A message on each wire, and a key handled by each side. */
-    private static SessionFix busy() {
-        SessionFix fix = Check.bothOn();
-        for (int side = 0; side < 2; side++) {
-            fix.send(side, 11 + side);
-            fix.deliver(1 - side);
-            fix.send(side, 21 + side);
+    private static void states(int self) {
+        check.sentence("stateOf: Returns OFF, WAITING or ON");
+        Fix fix = new Fix();
+        check.same("at first", fix.stateOf(self), 0);
+        fix.logon(self);
+        check.same("behind a logon", fix.stateOf(self), 1);
+        check.same("the other", fix.stateOf(1 - self), 0);
+        fix.deliver(1 - self);
+        check.same("by a LOGON that asks", fix.stateOf(1 - self), 2);
+        check.same("the side yet", fix.stateOf(self), 1);
+        fix.deliver(self);
+        check.same("by a LOGON that answers", fix.stateOf(self), 2);
+        fix.logout(self);
+        check.same("behind a logout", fix.stateOf(self), 0);
+        check.same("the other yet", fix.stateOf(1 - self), 2);
+        fix.deliver(1 - self);
+        check.same("by a LOGOUT", fix.stateOf(1 - self), 0);
+    }
+
+    private static void nextNumbers(int self) {
+        check.sentence("next: Returns the number of the next message of a side");
+        Fix fix = new Fix();
+        check.same("at first", fix.next(self), 1);
+        fix.logon(self);
+        check.same("behind a LOGON", fix.next(self), 2);
+        check.same("of the other", fix.next(1 - self), 1);
+        fix.deliver(1 - self);
+        check.same("behind its answer", fix.next(1 - self), 2);
+        fix.deliver(self);
+        check.same("next is the number of the next", fix.next(self), fix.send(self, 5));
+        check.same("behind it", fix.next(self), 3);
+        check.same("behind the 200th", Make.sent(self, 200).next(self), 201);
+    }
+
+    private static void expectedNumbers(int self) {
+        check.sentence("expected: Returns the number that a side expects");
+        Fix fix = Make.bothOn();
+        check.same("behind a LOGON", fix.expected(self), 2);
+        fix.send(1 - self, 5);
+        check.same("what is on the wire is expected yet", fix.expected(self), 2);
+        fix.deliver(self);
+        check.same("behind it", fix.expected(self), 3);
+        fix.send(1 - self, 6);
+        fix.lose(self);
+        check.same("what is lost is expected yet", fix.expected(self), 3);
+        check.same("of the other", fix.expected(1 - self), 2);
+        Fix most = new Fix();
+        most.logon(self);
+        most.deliver(1 - self);
+        most.deliver(self);
+        for (int number = 2; number <= 200; number++) {
+            most.send(self, number);
+            most.deliver(1 - self);
         }
-        return fix;
+        check.same("behind the 200th", most.expected(1 - self), 201);
+        check.same("its keys", most.handled(1 - self), 199);
+        check.same("all agreed", most.agreed(1 - self), 199);
     }
 
-    private static void wrongSides() {
-        SessionFix fix = busy();
-        for (int side : WRONG_SIDES) {
-            check.refused("stateOf " + side, fix, NO_INDEX, () -> fix.stateOf(side));
-            check.refused("next " + side, fix, NO_INDEX, () -> fix.next(side));
-            check.refused("expected " + side, fix, NO_INDEX, () -> fix.expected(side));
-            check.refused("isAsking " + side, fix, NO_INDEX, () -> fix.isAsking(side));
-            check.refused("wire " + side, fix, NO_INDEX, () -> fix.wire(side));
-            check.refused("numberAt " + side, fix, NO_INDEX, () -> fix.numberAt(side, 0));
-            check.refused("textLength " + side, fix, NO_INDEX, () -> fix.textLength(side, 0));
-            check.refused("textChar " + side, fix, NO_INDEX, () -> fix.textChar(side, 0, 0));
-            check.refused("handled " + side, fix, NO_INDEX, () -> fix.handled(side));
-            check.refused("handledKey " + side, fix, NO_INDEX, () -> fix.handledKey(side, 0));
-            check.refused("doubles " + side, fix, NO_INDEX, () -> fix.doubles(side));
-            check.refused("agreed " + side, fix, NO_INDEX, () -> fix.agreed(side));
+    private static void asking(int self) {
+        check.sentence("isAsking: Tells whether a side has a resend waiting");
+        check.same("at first", new Fix().isAsking(self), false);
+        Fix fix = Make.bothOn();
+        check.same("with no gap", fix.isAsking(self), false);
+        Make.gap(fix, self);
+        check.same("with one", fix.isAsking(self), true);
+        check.same("the other has none", fix.isAsking(1 - self), false);
+        fix.deliver(1 - self);
+        check.same("answered, but not come", fix.isAsking(self), true);
+        check.same("the one that answered has none", fix.isAsking(1 - self), false);
+        fix.deliver(self);
+        check.same("come", fix.isAsking(self), false);
+    }
+
+    private static void wires(int self) {
+        check.sentence("wire: Returns how many messages are on the wire to a side");
+        Fix fix = Make.onTheWire(self, 3);
+        check.same("to the side", fix.wire(self), 3);
+        check.same("to the other", fix.wire(1 - self), 0);
+        fix.deliver(self);
+        check.same("behind one that came", fix.wire(self), 2);
+        fix.lose(self);
+        check.same("behind one that was lost", fix.wire(self), 1);
+        fix.lose(self);
+        check.same("behind the last", fix.wire(self), 0);
+    }
+
+    private static void numbersOnTheWire(int self) {
+        check.sentence("numberAt: Returns the number of a message on the wire to a side");
+        Fix fix = Make.onTheWire(self, 3);
+        fix.send(self, 1);
+        check.same("numbers", Check.numbers(fix, self), "2 3 4");
+        check.same("of the other wire", Check.numbers(fix, 1 - self), "2");
+        fix.lose(self);
+        check.same("behind one that is lost", Check.numbers(fix, self), "3 4");
+        fix.deliver(self);
+        fix.lose(1 - self);
+        fix.deliver(1 - self);
+        check.same("those sent again have their own", Check.numbers(fix, self), "4 2 3 4 5");
+    }
+
+    private static void textOfEachKind(int self) {
+        check.sentence("its number, a space, the name of its kind, for a RESEND and a FILL a space and the number that "
+                + "it tells, for a BUSINESS message a space and its key");
+        Fix fix = Make.bothOn();
+        fix.send(1 - self, 31);
+        Make.ticks(fix, 5);
+        fix.logout(1 - self);
+        check.same("BUSINESS, HEARTBEAT, TEST, LOGOUT", Check.wire(fix, self),
+                "2 BUSINESS 31, 3 HEARTBEAT, 4 TEST, 5 LOGOUT");
+        fix.logon(1 - self);
+        check.same("LOGON", Check.wire(fix, self), "6 LOGON");
+        fix.deliver(self);
+        check.same("LOGON, RESEND", Check.wire(fix, 1 - self), "4 LOGON, 5 RESEND 2");
+        fix.deliver(1 - self);
+        fix.deliver(1 - self);
+        check.same("RESEND, BUSINESS, FILL", Check.wire(fix, self), "7 RESEND 2, 2 BUSINESS 31 D, 3 FILL 8 D");
+    }
+
+    private static void textOfMarks(int self) {
+        check.sentence("for one that is marked as sent again a space and the letter D, for a possible double a space "
+                + "and the letter P (with both first D)");
+        Fix fix = Make.bothOn();
+        fix.send(1 - self, 7);
+        fix.again(1 - self, 2);
+        check.same("no mark, P", Check.wire(fix, self), "2 BUSINESS 7, 3 BUSINESS 7 P");
+        fix.lose(self);
+        fix.deliver(self);
+        fix.deliver(1 - self);
+        check.same("D, D P", Check.wire(fix, self), "2 BUSINESS 7 D, 3 BUSINESS 7 D P");
+        Make.deliverAll(fix, self);
+        fix.again(1 - self, 3);
+        check.same("one sent again is kept without the mark", Check.wire(fix, self), "4 BUSINESS 7 P");
+    }
+
+    private static void textOfLongNumbers(int self) {
+        check.sentence("as \"7 BUSINESS 31 D\"");
+        Fix fix = Make.bothOn();
+        for (int number = 2; number <= 100; number++) {
+            fix.send(1 - self, number * 10 - 1);
+        }
+        fix.send(1 - self, 999);
+        check.same("one digit", Check.text(fix, self, 0), "2 BUSINESS 19");
+        check.same("9", Check.text(fix, self, 7), "9 BUSINESS 89");
+        check.same("10", Check.text(fix, self, 8), "10 BUSINESS 99");
+        check.same("11", Check.text(fix, self, 9), "11 BUSINESS 109");
+        Make.loseAll(fix, self);
+        fix.send(1 - self, 0);
+        check.same("three digits, and the key 0", Check.wire(fix, self), "102 BUSINESS 0");
+        fix.again(1 - self, 101);
+        check.same("and the key 999", Check.lastText(fix, self), "103 BUSINESS 999 P");
+        check.same("what the 99th tells is there", fix.again(1 - self, 99), 104);
+        check.same("its key", Check.lastText(fix, self), "104 BUSINESS 989 P");
+        Fix most = Make.sent(1 - self, 199);
+        most.send(1 - self, 999);
+        check.same("the last number and the last key", Check.wire(most, self), "200 BUSINESS 999");
+        check.same("as many characters", most.textLength(self, 0), 16);
+    }
+
+    private static void lengthOfTexts(int self) {
+        check.sentence("textLength: Returns how many characters a message on the wire to a side has as text");
+        Fix fix = Make.bothOn();
+        fix.send(1 - self, 7);
+        fix.again(1 - self, 2);
+        Make.ticks(fix, 5);
+        fix.logout(1 - self);
+        String[] texts = {"2 BUSINESS 7", "3 BUSINESS 7 P", "4 HEARTBEAT", "5 TEST", "6 LOGOUT"};
+        for (int place = 0; place < texts.length; place++) {
+            check.same("length of " + texts[place], fix.textLength(self, place), texts[place].length());
+        }
+        fix.logon(1 - self);
+        check.same("length of 7 LOGON", fix.textLength(self, 0), 7);
+        fix.deliver(self);
+        check.same("length of 5 RESEND 2", fix.textLength(1 - self, 1), 10);
+        fix.deliver(1 - self);
+        fix.deliver(1 - self);
+        String[] again = {"8 RESEND 2", "2 BUSINESS 7 D", "3 BUSINESS 7 D P", "4 FILL 9 D"};
+        for (int place = 0; place < again.length; place++) {
+            check.same("length of " + again[place], fix.textLength(self, place), again[place].length());
         }
     }
 
-    private static void wrongPlaces() {
-        SessionFix fix = busy();
-        for (int place : WRONG_PLACES) {
-            wrongPlace(fix, place);
-        }
-        wrongPlace(fix, 1);
-        SessionFix full = Check.bothOn();
-        for (int i = 0; i < 61; i++) {
-            full.send(0, i);
-        }
-        check.same("the last place of a full wire", full.numberAt(1, 59), 61);
-        check.refused("the place behind it", full, NO_INDEX, () -> full.numberAt(1, 60));
-        Check.deliverAll(full, 1);
-        check.refused("the first place of an empty wire", full, NO_INDEX, () -> full.numberAt(1, 0));
-        check.same("the last key", full.handledKey(1, 59), 59);
-        check.refused("the key behind it", full, NO_INDEX, () -> full.handledKey(1, 60));
-    }
-
-    private static void wrongPlace(SessionFix fix, int place) {
-        for (int i = 0; i < 2; i++) {
-            int side = i;
-            check.refused("numberAt at " + place, fix, NO_INDEX, () -> fix.numberAt(side, place));
-            check.refused("textLength at " + place, fix, NO_INDEX, () -> fix.textLength(side, place));
-            check.refused("textChar at " + place, fix, NO_INDEX, () -> fix.textChar(side, place, 0));
-            check.refused("handledKey at " + place, fix, NO_INDEX, () -> fix.handledKey(side, place));
+    private static void charactersOfAText(int self) {
+        check.sentence("textChar: Returns a character of that text");
+        Fix fix = Make.onTheWire(self, 1);
+        fix.send(1 - self, 31);
+        String text = "3 BUSINESS 31";
+        for (int character = 0; character < text.length(); character++) {
+            check.same("character " + character, fix.textChar(self, 1, character), text.charAt(character));
         }
     }
 
-    private static void states() {
-        SessionFix fix = new SessionFix();
-        check.same("OFF", fix.stateOf(0) + fix.stateOf(1), 0);
-        fix.logon(1);
-        check.same("WAITING", fix.stateOf(1), 1);
-        fix.deliver(0);
-        check.same("ON", fix.stateOf(0), 2);
-        fix.logout(0);
-        check.same("OFF", fix.stateOf(0), 0);
-    }
-
-    private static void numbers() {
-        SessionFix fix = Check.bothOn();
-        fix.send(0, 5);
-        fix.send(0, 6);
-        fix.send(1, 7);
-        fix.deliver(1);
-        check.same("next(0)", fix.next(0), 4);
-        check.same("next(1)", fix.next(1), 3);
-        check.same("expected(0)", fix.expected(0), 2);
-        check.same("expected(1)", fix.expected(1), 3);
-    }
-
-    private static void asking() {
-        SessionFix fix = Check.bothOn();
-        fix.send(0, 5);
-        fix.send(0, 6);
-        fix.lose(1);
-        fix.deliver(1);
-        check.same("isAsking(0)", fix.isAsking(0), false);
-        check.same("isAsking(1)", fix.isAsking(1), true);
+    private static void handledMessages(int self) {
+        check.sentence("handled: Returns how many BUSINESS messages a side has handled in this day");
+        Fix fix = Make.onTheWire(self, 2);
+        check.same("on the wire", fix.handled(self), 0);
+        fix.deliver(self);
+        check.same("the first", fix.handled(self), 1);
+        fix.deliver(self);
+        check.same("the second", fix.handled(self), 2);
+        fix.again(1 - self, 2);
+        fix.deliver(self);
+        check.same("a possible double is not handled", fix.handled(self), 2);
+        Make.ticks(fix, 3);
+        fix.deliver(self);
+        check.same("nor is a HEARTBEAT", fix.handled(self), 2);
+        check.same("the other", fix.handled(1 - self), 0);
+        fix.crash(0);
+        check.same("behind a crash", fix.handled(self), 2);
         fix.crash(1);
-        check.same("isAsking(1) behind a crash", fix.isAsking(1), false);
+        fix.endDay();
+        check.same("in a new day", fix.handled(self), 0);
     }
 
-    private static void wires() {
-        SessionFix fix = Check.bothOn();
-        check.same("empty wires", fix.wire(0) + fix.wire(1), 0);
-        fix.send(0, 5);
-        fix.send(0, 6);
-        fix.send(0, 7);
-        check.same("wire(1)", fix.wire(1), 3);
-        check.same("wire(0)", fix.wire(0), 0);
-        check.same("numbers", Check.numbers(fix, 1), "2 3 4");
-        fix.lose(1);
-        check.same("numbers then", Check.numbers(fix, 1), "3 4");
-        fix.deliver(1);
-        fix.deliver(0);
-        check.same("numbers of what is sent again", Check.numbers(fix, 1), "4 2 3 4");
+    private static void handledKeys(int self) {
+        check.sentence("handledKey: Returns the key of a BUSINESS message that a side handled");
+        Fix fix = Make.bothOn();
+        fix.send(1 - self, 0);
+        fix.send(1 - self, 999);
+        fix.send(1 - self, 0);
+        fix.send(self, 4);
+        Make.deliverAll(fix, self);
+        Make.deliverAll(fix, 1 - self);
+        check.same("the first", fix.handledKey(self, 0), 0);
+        check.same("the second", fix.handledKey(self, 1), 999);
+        check.same("the last", fix.handledKey(self, 2), 0);
+        check.same("of the other", Check.keys(fix, 1 - self), "4");
     }
 
-    private static void texts() {
-        SessionFix fix = Check.bothOn();
-        fix.send(0, 31);
-        fix.again(0, 2);
-        Check.ticks(fix, 5);
-        fix.logout(0);
-        check.same("BUSINESS, HEARTBEAT, TEST, LOGOUT", Check.wire(fix, 1),
-                "2 BUSINESS 31, 3 BUSINESS 31 P, 4 HEARTBEAT, 5 TEST, 6 LOGOUT");
-        fix.logon(0);
-        check.same("LOGON", Check.wire(fix, 1), "7 LOGON");
-        fix.deliver(1);
-        check.same("RESEND", Check.wire(fix, 0), "4 LOGON, 5 RESEND 2");
-        fix.deliver(0);
-        fix.deliver(0);
-        check.same("FILL and marks", Check.wire(fix, 1),
-                "8 RESEND 2, 2 BUSINESS 31 D, 3 BUSINESS 31 D P, 4 FILL 9 D");
-        check.same("length of RESEND", fix.textLength(1, 0), 10);
-        check.same("length of BUSINESS D", fix.textLength(1, 1), 15);
-        check.same("length of BUSINESS D P", fix.textLength(1, 2), 17);
-        check.same("length of FILL", fix.textLength(1, 3), 10);
-
-        SessionFix long1 = Check.bothOn();
-        Check.sendUpTo(long1, 0, 199);
-        long1.send(0, 999);
-        check.same("a number of three digits", Check.wire(long1, 1), "200 BUSINESS 999");
-        long1.deliver(1);
-        check.same("number told", Check.wire(long1, 0), "2 RESEND 2");
-        SessionFix zero = Check.bothOn();
-        zero.send(1, 0);
-        check.same("the key 0", Check.wire(zero, 0), "2 BUSINESS 0");
-        SessionFix told = Check.bothOn();
-        Check.sendUpTo(told, 0, 197);
-        Check.ticks(told, 3);
-        told.logout(0);
-        Check.loseAll(told, 0);
-        told.logon(0);
-        told.deliver(1);
-        Check.deliverAll(told, 0);
-        check.same("it sends no more", told.next(0), 201);
-        check.same("the wire is full of the resend", told.wire(1), 60);
+    private static void doublesOfADay(int self) {
+        check.sentence("doubles: Returns how many doubles a side has had in this day");
+        Fix fix = Make.bothOn();
+        fix.send(1 - self, 5);
+        fix.again(1 - self, 2);
+        fix.again(1 - self, 3);
+        check.same("on the wire", fix.doubles(self), 0);
+        fix.deliver(self);
+        check.same("the first is none", fix.doubles(self), 0);
+        fix.deliver(self);
+        fix.deliver(self);
+        check.same("possible doubles", fix.doubles(self), 2);
+        check.same("of the other", fix.doubles(1 - self), 0);
+        fix.crash(0);
+        fix.crash(1);
+        check.same("behind a crash", fix.doubles(self), 2);
+        fix.endDay();
+        check.same("in a new day", fix.doubles(self), 0);
     }
 
-    private static void characters() {
-        SessionFix fix = Check.bothOn();
-        fix.send(0, 31);
-        String text = "2 BUSINESS 31";
-        check.same("length", fix.textLength(1, 0), text.length());
-        for (int place = 0; place < text.length(); place++) {
-            check.same("character " + place, fix.textChar(1, 0, place), text.charAt(place));
+    private static void agreedUpToWhatIsExpected(int self) {
+        check.sentence("gone through from the number 1 on up to the one ahead of what the side expects");
+        check.same("at first", new Fix().agreed(self), 0);
+        Fix fix = Make.onTheWire(self, 3);
+        for (int come = 0; come < 3; come++) {
+            check.same("with " + come, fix.agreed(self), come);
+            fix.deliver(self);
         }
-        for (int character : new int[] {-1, text.length(), 100, Integer.MIN_VALUE, Integer.MAX_VALUE}) {
-            check.refused("character " + character, fix, NO_INDEX, () -> fix.textChar(1, 0, character));
+        check.same("with all", fix.agreed(self), 3);
+        check.same("the other handled none", fix.agreed(1 - self), 0);
+        fix.send(1 - self, 9);
+        check.same("what the store has beyond is not held against", fix.agreed(self), 3);
+        fix.crash(0);
+        fix.crash(1);
+        check.same("behind a crash", fix.agreed(self), 3);
+        fix.endDay();
+        check.same("in a new day", fix.agreed(self), 0);
+    }
+
+    private static void agreedButPossibleDoubles(int self) {
+        check.sentence("its BUSINESS messages, but possible doubles of keys that came ahead");
+        Fix fix = Make.bothOn();
+        fix.send(1 - self, 5);
+        fix.send(1 - self, 6);
+        fix.again(1 - self, 2);
+        fix.send(1 - self, 5);
+        fix.again(1 - self, 3);
+        fix.send(1 - self, 7);
+        int[] agreed = {1, 2, 2, 3, 3, 4};
+        for (int due : agreed) {
+            fix.deliver(self);
+            check.same("with the number " + (fix.expected(self) - 1), fix.agreed(self), due);
         }
+        check.same("keys", Check.keys(fix, self), "5 6 5 7");
     }
 
-    private static void handled() {
-        SessionFix fix = Check.bothOn();
-        check.refused("no key yet", fix, NO_INDEX, () -> fix.handledKey(1, 0));
-        fix.send(0, 0);
-        fix.send(0, 999);
-        fix.send(0, 0);
-        fix.send(1, 4);
-        Check.deliverAll(fix, 1);
-        check.same("handled(1)", fix.handled(1), 3);
-        check.same("handled(0)", fix.handled(0), 0);
-        check.same("keys", Check.keys(fix, 1), "0 999 0");
-        check.refused("behind the last", fix, NO_INDEX, () -> fix.handledKey(1, 3));
-        check.refused("ahead of the first", fix, NO_INDEX, () -> fix.handledKey(1, -1));
+    private static void agreedAcrossAGap(int self) {
+        check.sentence("held against the keys handled, one by one, until two are unlike or one row ends");
+        Fix fix = Make.onTheWire(self, 1);
+        fix.deliver(self);
+        Make.gap(fix, self);
+        check.same("a gap", fix.agreed(self), 1);
+        fix.deliver(1 - self);
+        fix.deliver(self);
+        check.same("half filled", fix.agreed(self), 2);
+        fix.deliver(self);
+        check.same("filled", fix.agreed(self), 3);
+        Make.ticks(fix, 3);
+        fix.deliver(self);
+        fix.send(1 - self, 8);
+        fix.deliver(self);
+        check.same("other kinds are passed over", fix.agreed(self), 4);
     }
 
-    private static void doubles() {
-        SessionFix fix = Check.bothOn();
-        fix.send(0, 5);
-        fix.again(0, 2);
-        fix.again(0, 3);
-        Check.deliverAll(fix, 1);
-        check.same("possible doubles", fix.doubles(1), 2);
-        check.same("of one side", fix.doubles(0), 0);
-        check.same("handled once", Check.keys(fix, 1), "5");
-        fix.send(0, 5);
-        fix.deliver(1);
-        check.same("no double without the mark", fix.doubles(1), 2);
-        check.same("handled twice then", Check.keys(fix, 1), "5 5");
-    }
-
-    private static void agreed() {
-        SessionFix fix = Check.bothOn();
-        fix.send(0, 5);
-        fix.send(0, 6);
-        fix.again(0, 2);
-        fix.send(0, 5);
-        fix.send(0, 7);
-        check.same("nothing has come", fix.agreed(1), 0);
-        fix.deliver(1);
-        check.same("one has come", fix.agreed(1), 1);
-        fix.deliver(1);
-        fix.deliver(1);
-        check.same("a possible double is passed over", fix.agreed(1), 2);
-        fix.deliver(1);
-        check.same("a key sent anew is not", fix.agreed(1), 3);
-        fix.deliver(1);
-        check.same("all have come", fix.agreed(1), 4);
-        check.same("of the other side none", fix.agreed(0), 0);
-        fix.send(0, 8);
-        fix.send(0, 9);
-        fix.lose(1);
-        fix.deliver(1);
-        check.same("a gap", fix.agreed(1), 4);
-        fix.deliver(0);
-        fix.deliver(1);
-        check.same("half filled", fix.agreed(1), 5);
-
-        SessionFix anew = Check.bothOn();
-        anew.send(0, 5);
-        anew.send(0, 5);
-        anew.send(0, 6);
-        anew.again(0, 2);
-        anew.send(0, 7);
-        Check.deliverAll(anew, 1);
-        check.same("a key sent anew without the mark is held against", anew.agreed(1), 4);
+    private static void queriesChangeNothing(int self) {
+        check.sentence("what is");
+        Fix asked = Make.busy(self);
+        Fix left = Make.busy(self);
+        check.same("asked twice", Check.whole(asked), Check.whole(asked));
+        for (int i = 0; i < 9; i++) {
+            Check.plain(asked, i % 2);
+            check.same("tick", asked.tick(), left.tick());
+        }
+        check.same("what comes of it", Check.whole(asked), Check.whole(left));
     }
 }

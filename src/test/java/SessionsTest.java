@@ -1,281 +1,201 @@
-/** Promises 1 to 5: a new object, logon, logout, crash, endDay. */
+/** Promises 1 to 5: a new object, logon, logout, crash, endDay. (What they refuse is in RefusalsTest.) */
 public final class SessionsTest {
-    private static final Class<IndexOutOfBoundsException> NO_SIDE = IndexOutOfBoundsException.class;
-    private static final Class<IllegalStateException> NOT_NOW = IllegalStateException.class;
-    private static final int[] WRONG_SIDES = {-1, 2, Integer.MIN_VALUE, Integer.MAX_VALUE};
+    private static final String EMPTY = "state 0 next 1 expected 1 asking false wire:  handled:  doubles 0 agreed 0";
     private static final Check check = new Check();
 
     public static void main(String[] args) {
         newObject();
-        wrongSides();
-        logon();
-        logonOfOneThatIsOn();
-        logonComesToAnySide();
-        logonWithAGap();
-        otherMessagesWhileWaiting();
-        logonThatAnswers();
-        logonAtTheLimit();
-        logout();
-        logoutThatComes();
-        crash();
-        endDay();
+        for (int self = 0; self < 2; self++) {
+            logonAnswersItsNumber(self);
+            logonOfBothSides(self);
+            logoutSendsAndIsOff(self);
+            crashTellsWhetherItWasOn(self);
+            crashLeavesStoreAndWires(self);
+            dayWithNothing(self);
+            dayCountsWhatWasSent(self);
+            dayCountsNoResends(self);
+            dayEmptiesAll(self);
+            newDay(self);
+        }
         check.end();
     }
 
     private static void newObject() {
-        SessionFix fix = new SessionFix();
-        for (int side = 0; side < 2; side++) {
-            check.same("new object, side " + side, Check.plain(fix, side),
-                    "state 0 next 1 expected 1 asking false wire 0:  handled 0:  doubles 0 agreed 0");
+        check.sentence("Two sides that are OFF, with empty stores and wires, at the time 0");
+        Fix fix = new Fix();
+        check.same("side 0", Check.plain(fix, 0), EMPTY);
+        check.same("side 1", Check.plain(fix, 1), EMPTY);
+        check.same("the first tick", fix.tick(), 1);
+        Fix other = new Fix();
+        other.logon(0);
+        check.same("objects have nothing in common", fix.wire(1) + fix.stateOf(0), 0);
+    }
+
+    private static void logonAnswersItsNumber(int self) {
+        check.sentence("logon: Returns the number of its LOGON");
+        Fix fix = new Fix();
+        for (int number = 1; number <= 12; number++) {
+            check.same("logon", fix.logon(self), number);
+            check.same("on the wire alone", Check.wire(fix, 1 - self), number + " LOGON");
+            check.same("state", fix.stateOf(self), SessionFix.WAITING);
+            fix.crash(self);
         }
-        check.same("first tick", fix.tick(), 1);
+        check.same("the other has sent nothing", Check.plain(fix, 1 - self).replaceFirst("wire: 12", "wire: "), EMPTY);
     }
 
-    private static void wrongSides() {
-        SessionFix fix = Check.bothOn();
-        for (int side : WRONG_SIDES) {
-            check.refused("logon " + side, fix, NO_SIDE, () -> fix.logon(side));
-            check.refused("logout " + side, fix, NO_SIDE, () -> fix.logout(side));
-            check.refused("crash " + side, fix, NO_SIDE, () -> fix.crash(side));
-        }
+    private static void logonOfBothSides(int self) {
+        check.sentence("logon: Lets a side log on");
+        Fix fix = Make.waiting(self);
+        check.same("logon of the other", fix.logon(1 - self), 1);
+        check.same("both wait", fix.stateOf(0) * 10 + fix.stateOf(1), 11);
+        check.same("the first LOGON is gone", fix.wire(1 - self), 0);
+        check.same("the second is there", Check.wire(fix, self), "1 LOGON");
+        fix.deliver(self);
+        fix.deliver(1 - self);
+        check.same("both are ON", fix.stateOf(0) * 10 + fix.stateOf(1), 22);
+        check.same("what was emptied away is a gap", Check.wire(fix, self), "2 RESEND 1");
+        fix.deliver(self);
+        fix.deliver(1 - self);
+        check.same("and is filled over", fix.expected(1 - self), 3);
     }
 
-    private static void logon() {
-        SessionFix fix = new SessionFix();
-        check.same("logon(1)", fix.logon(1), 1);
-        check.same("state of the one that logs on", fix.stateOf(1), SessionFix.WAITING);
-        check.same("state of the other", fix.stateOf(0), SessionFix.OFF);
-        check.same("its LOGON", Check.wire(fix, 0), "1 LOGON");
-        check.refused("logon of a WAITING side", fix, NOT_NOW, () -> fix.logon(1));
-        check.same("logon(0)", fix.logon(0), 1);
-        check.same("logon empties the wire to the side itself", fix.wire(0), 0);
-        check.same("and puts its LOGON on the other", Check.wire(fix, 1), "1 LOGON");
-        check.same("deliver to a WAITING side", fix.deliver(1), SessionFix.LOGON);
-        check.same("it becomes ON by a LOGON that asks", fix.stateOf(1), SessionFix.ON);
-        check.same("and answers", Check.wire(fix, 0), "2 LOGON");
-        fix.deliver(0);
-        check.same("gap of the LOGON that was emptied away", Check.wire(fix, 1), "2 RESEND 1");
-        check.same("it is ON all the same", fix.stateOf(0), SessionFix.ON);
+    private static void logoutSendsAndIsOff(int self) {
+        check.sentence("logout: it sends a LOGOUT, and becomes OFF");
+        Fix fix = Make.bothOn();
+        fix.send(1 - self, 3);
+        fix.send(self, 4);
+        check.same("logout", fix.logout(self), 3);
+        check.same("state", fix.stateOf(self), SessionFix.OFF);
+        check.same("the LOGOUT is behind the others", Check.wire(fix, 1 - self), "2 BUSINESS 4, 3 LOGOUT");
+        check.same("its own wire stays", Check.wire(fix, self), "2 BUSINESS 3");
+        check.same("the other is ON yet", fix.stateOf(1 - self), SessionFix.ON);
+        check.same("next", fix.next(self), 4);
+        check.same("a logon behind it", fix.logon(self), 4);
+        Fix ask = Make.onByAnAsk(self);
+        check.same("logout of one ON by an ask", ask.logout(self), 2);
+        check.same("behind its answer", Check.wire(ask, 1 - self), "1 LOGON, 2 LOGOUT");
     }
 
-    private static void logonOfOneThatIsOn() {
-        SessionFix fix = Check.bothOn();
-        check.refused("logon of an ON side", fix, NOT_NOW, () -> fix.logon(0));
-        fix.send(0, 1);
-        fix.send(1, 2);
+    private static void crashTellsWhetherItWasOn(int self) {
+        check.sentence("crash: Returns whether it was ON");
+        check.same("OFF", new Fix().crash(self), false);
+        check.same("WAITING", Make.waiting(self).crash(self), false);
+        check.same("the other WAITING", Make.waiting(1 - self).crash(self), false);
+        check.same("ON by an ask", Make.onByAnAsk(self).crash(self), true);
+        check.same("the other ON", Make.onByAnAsk(1 - self).crash(self), false);
+        Fix fix = Make.bothOn();
+        check.same("ON by an answer", fix.crash(self), true);
+        check.same("once more", fix.crash(self), false);
+        check.same("the other", fix.crash(1 - self), true);
+        Fix waiting = Make.waiting(self);
+        waiting.crash(self);
+        check.same("a WAITING side becomes OFF", waiting.stateOf(self), SessionFix.OFF);
+        check.same("behind a logout", loggedOut(self).crash(self), false);
+        Fix silent = Make.bothOn();
+        Make.ticks(silent, 8);
+        check.same("behind 8 ticks", silent.crash(self), false);
+    }
+
+    private static Fix loggedOut(int side) {
+        Fix fix = Make.bothOn();
+        fix.logout(side);
+        return fix;
+    }
+
+    private static void crashLeavesStoreAndWires(int self) {
+        check.sentence("crash: it becomes OFF; its store stays");
+        Fix fix = Make.bothOn();
+        fix.send(1 - self, 7);
+        fix.again(1 - self, 2);
+        Make.deliverAll(fix, self);
+        Make.gap(fix, self);
+        fix.send(1 - self, 9);
+        fix.crash(self);
+        check.same("the side", Check.plain(fix, self),
+                "state 0 next 3 expected 4 asking false wire: 6 handled: 7 doubles 1 agreed 1");
+        check.same("its wires", Check.wire(fix, self) + " / " + Check.wire(fix, 1 - self), "6 BUSINESS 9 / 2 RESEND 4");
+        check.same("the other", Check.plain(fix, 1 - self),
+                "state 2 next 7 expected 2 asking false wire: 2 handled:  doubles 0 agreed 0");
+    }
+
+    private static void dayWithNothing(int self) {
+        check.sentence("endDay: Returns how many messages both sides sent in the day");
+        Fix fix = new Fix();
+        check.same("a new object", fix.endDay(), 0);
+        check.same("once more", fix.endDay(), 0);
+        fix.logon(self);
+        fix.crash(self);
+        check.same("a LOGON alone", fix.endDay(), 1);
+        check.same("counted but once", fix.endDay(), 0);
+    }
+
+    private static void dayCountsWhatWasSent(int self) {
+        check.sentence("endDay: Returns how many messages both sides sent in the day");
+        Fix fix = Make.bothOn();
+        fix.send(self, 1);
+        fix.send(self, 2);
+        fix.again(self, 2);
+        fix.lose(1 - self);
+        Make.ticks(fix, 5);
+        fix.logout(self);
+        fix.crash(1 - self);
+        check.same("of all kinds, lost ones too", fix.endDay(), 7 + 3);
+        Fix full = Make.onTheWire(self, 70);
+        full.crash(0);
+        full.crash(1);
+        check.same("those that a full wire lost, too", full.endDay(), 72);
+    }
+
+    private static void dayCountsNoResends(int self) {
+        check.sentence("endDay: Returns how many messages both sides sent in the day");
+        Fix fix = Make.asking(self);
+        fix.deliver(1 - self);
+        Make.deliverAll(fix, self);
         fix.crash(0);
-        check.same("a crash leaves the wires", fix.wire(0) + fix.wire(1), 2);
-        check.same("logon after a crash", fix.logon(0), 3);
-        check.same("both wires were emptied", Check.wire(fix, 0) + "/" + Check.wire(fix, 1), "/3 LOGON");
-        check.same("the other is ON yet", fix.stateOf(1), SessionFix.ON);
-        fix.deliver(1);
-        check.same("the answer first, then the RESEND", Check.wire(fix, 0), "3 LOGON, 4 RESEND 2");
-    }
-
-    private static void logonComesToAnySide() {
-        SessionFix fix = new SessionFix();
-        fix.logon(0);
-        fix.deliver(1);
-        check.same("an OFF side becomes ON", fix.stateOf(1), SessionFix.ON);
-        check.same("it expects the next", fix.expected(1), 2);
-        check.same("the first one waits", fix.stateOf(0), SessionFix.WAITING);
-        fix.deliver(0);
-        check.same("until it is answered", fix.stateOf(0), SessionFix.ON);
-        check.same("an answer is not answered", fix.wire(1), 0);
-        fix.send(1, 5);
-        fix.send(1, 6);
-        fix.lose(0);
-        fix.deliver(0);
-        check.same("a resend waits", fix.isAsking(0), true);
         fix.crash(1);
-        fix.logon(1);
-        fix.deliver(0);
-        check.same("a LOGON that asks ends the waiting one, and the gap asks anew",
-                Check.wire(fix, 1), "3 LOGON, 4 RESEND 2");
-        check.same("so one is waiting", fix.isAsking(0), true);
+        check.same("no message twice", fix.endDay(), 3 + 2);
     }
 
-    private static void logonWithAGap() {
-        SessionFix fix = new SessionFix();
-        fix.logon(0);
+    private static void dayEmptiesAll(int self) {
+        check.sentence("endDay: stores and wires are emptied, next and expected numbers are 1, doubles are 0");
+        Fix fix = Make.busy(self);
+        fix.deliver(self);
+        fix.deliver(1 - self);
+        fix.send(self, 1);
+        fix.send(1 - self, 2);
+        fix.again(self, 2);
+        Make.deliverAll(fix, 1 - self);
+        Make.deliverAll(fix, self);
+        fix.send(self, 3);
+        fix.send(1 - self, 4);
+        check.same("there are doubles", fix.doubles(0) + fix.doubles(1) > 0, true);
+        check.same("keys on both sides", fix.handled(0) > 0 && fix.handled(1) > 0, true);
+        check.same("and messages on both wires", fix.wire(0) > 0 && fix.wire(1) > 0, true);
         fix.crash(0);
-        fix.logon(0);
-        fix.deliver(1);
-        check.same("the second LOGON alone", Check.wire(fix, 0), "1 LOGON, 2 RESEND 1");
-        check.same("it is not handled", fix.expected(1), 1);
-        check.same("a resend waits", fix.isAsking(1), true);
-        fix.deliver(0);
-        fix.deliver(0);
-        check.same("both LOGONs are filled over", Check.wire(fix, 1), "1 FILL 3 D");
-        fix.deliver(1);
-        check.same("the FILL tells the next", fix.expected(1), 3);
-        check.same("and no resend waits", fix.isAsking(1), false);
-    }
-
-    private static void otherMessagesWhileWaiting() {
-        SessionFix fix = new SessionFix();
-        fix.logon(0);
-        fix.crash(0);
-        fix.logon(0);
-        fix.deliver(1);
-        fix.lose(0);
-        fix.deliver(0);
-        check.same("a WAITING side drops a RESEND", fix.expected(0), 1);
-        check.same("and is WAITING yet", fix.stateOf(0), SessionFix.WAITING);
         fix.crash(1);
-        fix.logon(1);
-        fix.deliver(0);
-        check.same("gap seen by the side that waited", Check.wire(fix, 1), "3 LOGON, 4 RESEND 1");
+        fix.endDay();
+        check.same("side 0", Check.plain(fix, 0), EMPTY);
+        check.same("side 1", Check.plain(fix, 1), EMPTY);
+        check.same("the time goes on", fix.tick(), 3);
     }
 
-    private static void logonThatAnswers() {
-        SessionFix fix = new SessionFix();
-        fix.logon(0);
-        fix.deliver(1);
-        fix.crash(0);
-        check.same("the answer is on the wire yet", Check.wire(fix, 0), "1 LOGON");
-        fix.deliver(0);
-        check.same("an OFF side stays OFF by an answer", fix.stateOf(0), SessionFix.OFF);
-        check.same("but it has looked at the number", fix.expected(0), 2);
-
-        SessionFix gap = new SessionFix();
-        gap.logon(0);
-        gap.deliver(1);
-        gap.send(1, 4);
-        gap.crash(0);
-        gap.crash(1);
-        gap.logon(0);
-        gap.deliver(1);
-        gap.crash(0);
-        gap.deliver(0);
-        check.same("an OFF side asks for nothing by an answer with a gap", gap.wire(1) + gap.expected(0), 1);
-        check.same("and has nothing waiting", gap.isAsking(0), false);
-    }
-
-    private static void logonAtTheLimit() {
-        SessionFix fix = Check.bothOn();
-        Check.sendUpTo(fix, 0, 199);
-        fix.crash(0);
-        check.same("the 200th message", fix.logon(0), 200);
-        fix.crash(0);
-        check.refused("logon with 200 sent", fix, NOT_NOW, () -> fix.logon(0));
-        check.same("next behind the last", fix.next(0), 201);
-
-        SessionFix other = Check.bothOn();
-        Check.sendUpTo(other, 0, 200);
-        other.crash(1);
-        other.logon(1);
-        other.deliver(0);
-        check.same("ON by a LOGON though the answer is left out", other.stateOf(0), SessionFix.ON);
-        check.same("nothing is put on the wire", other.wire(1), 0);
-        check.same("nothing is numbered", other.next(0), 201);
-    }
-
-    private static void logout() {
-        SessionFix first = new SessionFix();
-        check.refused("logout of an OFF side", first, NOT_NOW, () -> first.logout(0));
-        first.logon(0);
-        check.refused("logout of a WAITING side", first, NOT_NOW, () -> first.logout(0));
-        SessionFix fix = Check.bothOn();
-        fix.send(1, 3);
-        fix.send(1, 4);
-        fix.lose(0);
-        fix.deliver(0);
-        check.same("a resend waits", fix.isAsking(0), true);
-        check.same("logout(0)", fix.logout(0), 3);
-        check.same("it is OFF", fix.stateOf(0), SessionFix.OFF);
-        check.same("nothing waits at an OFF side", fix.isAsking(0), false);
-        check.same("its LOGOUT", Check.wire(fix, 1), "2 RESEND 2, 3 LOGOUT");
-
-        SessionFix full = Check.bothOn();
-        Check.sendUpTo(full, 1, 199);
-        check.same("a LOGOUT as the 200th", full.logout(1), 200);
-        SessionFix fuller = Check.bothOn();
-        Check.sendUpTo(fuller, 1, 200);
-        check.refused("logout with 200 sent", fuller, NOT_NOW, () -> fuller.logout(1));
-        check.same("it is ON yet", fuller.stateOf(1), SessionFix.ON);
-    }
-
-    private static void logoutThatComes() {
-        SessionFix fix = Check.bothOn();
-        fix.logout(0);
-        check.same("deliver the LOGOUT", fix.deliver(1), SessionFix.LOGOUT);
-        check.same("it is OFF by it", fix.stateOf(1), SessionFix.OFF);
-        check.same("it expects the next", fix.expected(1), 3);
-        check.same("and sends one itself", Check.wire(fix, 0), "2 LOGOUT");
-        fix.deliver(0);
-        check.same("which an OFF side drops", fix.expected(0), 2);
-        check.same("and does not answer", fix.wire(1), 0);
-
-        SessionFix full = Check.bothOn();
-        Check.sendUpTo(full, 1, 200);
-        full.logout(0);
-        full.deliver(1);
-        check.same("OFF though the LOGOUT is left out", full.stateOf(1), SessionFix.OFF);
-        check.same("left out", full.wire(0), 0);
-
-        SessionFix gap = Check.bothOn();
-        gap.send(0, 1);
-        gap.lose(1);
-        gap.logout(0);
-        gap.deliver(1);
-        check.same("a LOGOUT behind a gap is not handled", gap.stateOf(1), SessionFix.ON);
-        check.same("but asked over", Check.wire(gap, 0), "2 RESEND 2");
-    }
-
-    private static void crash() {
-        SessionFix fix = new SessionFix();
-        check.same("crash of an OFF side", fix.crash(0), false);
-        fix.logon(0);
-        check.same("crash of a WAITING side", fix.crash(0), false);
-        check.same("it is OFF", fix.stateOf(0), SessionFix.OFF);
-        SessionFix on = Check.bothOn();
-        on.send(0, 7);
-        on.deliver(1);
-        on.again(0, 2);
-        on.deliver(1);
-        on.send(0, 8);
-        on.send(0, 9);
-        on.lose(1);
-        on.deliver(1);
-        check.same("a resend waits", on.isAsking(1), true);
-        check.same("crash of an ON side", on.crash(1), true);
-        check.same("what the store keeps", Check.plain(on, 1),
-                "state 0 next 3 expected 4 asking false wire 0:  handled 1: 7 doubles 1 agreed 1");
-        check.same("crash of an OFF side again", on.crash(1), false);
-        check.same("the wire stays", Check.wire(on, 0), "2 RESEND 4");
-    }
-
-    private static void endDay() {
-        SessionFix fix = new SessionFix();
-        check.same("an empty day", fix.endDay(), 0);
-        SessionFix first = new SessionFix();
-        first.logon(0);
-        check.refused("a day with a WAITING side", first, NOT_NOW, () -> first.endDay());
-        SessionFix day = Check.bothOn();
-        day.send(0, 7);
-        day.again(0, 2);
-        Check.deliverAll(day, 1);
-        check.same("a double in the day", day.doubles(1), 1);
-        day.crash(1);
-        check.refused("a day with the side 0 ON", day, NOT_NOW, () -> day.endDay());
-        day.logout(0);
-        Check.ticks(day, 3);
-        check.same("messages of the day", day.endDay(), 5);
-        String empty = "state 0 next 1 expected 1 asking false wire 0:  handled 0:  doubles 0 agreed 0";
-        check.same("side 0 behind the day", Check.plain(day, 0), empty);
-        check.same("side 1 behind the day", Check.plain(day, 1), empty);
-        check.same("the time goes on", day.tick(), 4);
-        day.logon(0);
-        day.deliver(1);
-        day.deliver(0);
-        day.send(0, 7);
-        day.again(0, 2);
-        Check.deliverAll(day, 1);
-        check.same("the new day knows no old keys", Check.plain(day, 1),
-                "state 2 next 2 expected 4 asking false wire 0:  handled 1: 7 doubles 1 agreed 1");
-        SessionFix one = Check.bothOn();
-        one.crash(0);
-        check.refused("a day with the side 1 ON", one, NOT_NOW, () -> one.endDay());
+    private static void newDay(int self) {
+        check.sentence("endDay: Ends the day");
+        Fix fix = Make.bothOn();
+        fix.send(self, 7);
+        fix.deliver(1 - self);
+        fix.logout(self);
+        fix.crash(1 - self);
+        check.same("the day", fix.endDay(), 4);
+        check.same("logon", fix.logon(self), 1);
+        fix.deliver(1 - self);
+        fix.deliver(self);
+        check.same("send", fix.send(self, 8), 2);
+        check.same("again of the new day's message", fix.again(self, 2), 3);
+        check.same("send of a key of the day ahead", fix.send(self, 7), 4);
+        check.same("on the wire", Check.wire(fix, 1 - self), "2 BUSINESS 8, 3 BUSINESS 8 P, 4 BUSINESS 7");
+        Make.deliverAll(fix, 1 - self);
+        check.same("the new day knows no old keys", Check.plain(fix, 1 - self),
+                "state 2 next 2 expected 5 asking false wire:  handled: 8 7 doubles 1 agreed 2");
     }
 }
