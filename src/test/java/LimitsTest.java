@@ -28,6 +28,7 @@ public final class LimitsTest {
             testOf5Ticks(self);
             offWith8Ticks(self);
             whatIsHeard(self);
+            eachKindIsHeard(self);
             heardByBecomingOn(self);
             ticksOfTheOthers(self);
         }
@@ -242,6 +243,15 @@ public final class LimitsTest {
         off.deliver(self);
         check.same("an OFF side becomes ON by it, too", off.stateOf(self), SessionFix.ON);
         check.same("and sends nothing", off.wire(1 - self) + off.next(self), 201);
+        Fix gap = Make.sentAndOff(self, 200);
+        gap.send(1 - self, 1);
+        gap.crash(1 - self);
+        gap.logon(1 - self);
+        gap.deliver(self);
+        check.same("behind a gap it becomes ON as well", gap.stateOf(self), SessionFix.ON);
+        check.same("its RESEND is left out, too", gap.wire(1 - self) + gap.next(self), 201);
+        check.same("but is waiting", gap.isAsking(self), true);
+        check.same("and the gap stays", gap.expected(self), 2);
     }
 
     private static void beyond200ByAnswers(int self) {
@@ -424,6 +434,19 @@ public final class LimitsTest {
         logon.logon(1 - self);
         logon.deliver(self);
         quietFor2(logon, self, "a LOGON that answers");
+        Fix asks = new Fix();
+        Make.ticks(asks, 5);
+        asks.logon(self);
+        asks.deliver(1 - self);
+        asks.deliver(self);
+        quietFor2(asks, self, "a LOGON that asks");
+        Fix tested = Make.bothOn();
+        Make.ticks(tested, 5);
+        tested.deliver(self);
+        Make.ticks(tested, 1);
+        tested.deliver(self);
+        check.same("the answer to a TEST", Check.lastText(tested, 1 - self), "4 HEARTBEAT");
+        quietFor2(tested, self, "the answer to a TEST");
         Fix fill = new Fix();
         fill.logon(self);
         fill.crash(self);
@@ -520,6 +543,13 @@ public final class LimitsTest {
         twice.deliver(self);
         heardNow(twice, self, "what is sent again");
 
+        Fix logon = Make.bothOn();
+        Make.ticks(logon, 4);
+        logon.crash(1 - self);
+        logon.logon(1 - self);
+        check.same("a LOGON to an ON side", logon.deliver(self), SessionFix.LOGON);
+        heardNow(logon, self, "a LOGON");
+
         Fix quiet = Make.bothOn();
         quiet.send(1 - self, 1);
         Make.ticks(quiet, 4);
@@ -532,6 +562,30 @@ public final class LimitsTest {
         check.same("what is lost, sent or refused is not heard", Check.lastText(quiet, 1 - self), "4 TEST");
         Make.ticks(quiet, 3);
         check.same("and so it is OFF with 8", quiet.stateOf(self), SessionFix.OFF);
+    }
+
+    /** One message of each kind that leaves a side ON, four ticks behind the last one that it heard. */
+    private static void eachKindIsHeard(int self) {
+        check.sentence("A side hears whatever comes to it from the wire");
+        int[] kinds = {SessionFix.FILL, SessionFix.BUSINESS, SessionFix.RESEND, SessionFix.HEARTBEAT, SessionFix.TEST};
+        for (int last = 0; last < kinds.length; last++) {
+            Fix fix = Make.bothOn();
+            Make.ticks(fix, 3);
+            fix.lose(self);
+            fix.lose(1 - self);
+            fix.send(1 - self, 1);
+            fix.deliver(self);
+            fix.deliver(1 - self);
+            Make.ticks(fix, 5);
+            check.same("on the wire", Check.wire(fix, self),
+                    "2 FILL 3 D, 3 BUSINESS 1 D, 4 RESEND 2, 5 HEARTBEAT, 6 TEST");
+            for (int i = 0; i < last; i++) {
+                fix.deliver(self);
+            }
+            Make.ticks(fix, last == 0 ? 2 : 4);
+            check.same("the kind", fix.deliver(self), kinds[last]);
+            heardNow(fix, self, "the kind " + kinds[last]);
+        }
     }
 
     private static void heardNow(Fix fix, int self, String what) {

@@ -25,6 +25,7 @@ public final class TermsTest {
             expectedEndsTheWait(self);
             numberThatIsGreater(self);
             greaterWhileAResendWaits(self);
+            sentAgainThatIsGreater(self);
             resendThatIsGreater(self);
             offHasNoneWaiting(self);
             numberThatIsLess(self);
@@ -407,6 +408,27 @@ public final class TermsTest {
         none.send(1 - self, 3);
         none.deliver(self);
         check.same("from the number that it expects", Check.wire(none, 1 - self), "2 RESEND 3");
+    }
+
+    private static void sentAgainThatIsGreater(int self) {
+        check.sentence("If its number is greater, the message is not handled: marked as sent again or not");
+        Fix fix = Make.asking(self);
+        fix.deliver(1 - self);
+        fix.lose(self);
+        check.same("the second of an answer", Check.wire(fix, self), "3 BUSINESS 2 D");
+        fix.deliver(self);
+        check.same("is neither handled nor a double, and the RESEND is waiting yet", Check.plain(fix, self),
+                "state 2 next 3 expected 2 asking true wire:  handled:  doubles 0 agreed 0");
+        check.same("so it makes no RESEND", fix.wire(1 - self), 0);
+
+        Fix late = Make.asking(self);
+        late.deliver(1 - self);
+        late.lose(self);
+        Make.ticks(late, 4);
+        Make.loseAll(late, 1 - self);
+        late.deliver(self);
+        check.same("it makes one when none is waiting", Check.wire(late, 1 - self), "4 RESEND 2");
+        check.same("and is no double then either", late.handled(self) + late.doubles(self), 0);
     }
 
     private static void resendThatIsGreater(int self) {
